@@ -205,6 +205,7 @@ public final class RallyCard {
     /** Returns the total of a car, found anew from all that was told. */
     public int totalAnew(int car) throws IndexOutOfBoundsException {
         needCar(car);
+        rally.stages.reckonAll();
         return rally.ranks.totalFromCard(car);
     }
 
@@ -284,6 +285,7 @@ public final class RallyCard {
     private static final class Itinerary {
         private final int[] kinds = new int[ITEMS];
         private final int[] minutes = new int[ITEMS];
+        private final int[] legs = new int[ITEMS];
         private int size;
 
         boolean has(int item) {
@@ -318,26 +320,22 @@ public final class RallyCard {
             }
             kinds[size] = kind;
             minutes[size] = itsMinutes;
+            legs[size] = kind == LEG ? size : legOf(size - 1);
             size++;
             return size - 1;
         }
 
         boolean isBehindStage(int item) {
-            return kindOf(item - 1) == STAGE;
+            return item > 0 && item < size && kinds[item - 1] == STAGE;
         }
 
-        /** One step back is enough: no two stages are side by side. NONE ahead of the first item. */
+        /** Over one stage at most: no two are side by side. NONE ahead of the first item. */
         int controlAhead(int item) {
             return isBehindStage(item) ? item - 2 : item - 1;
         }
 
         int legOf(int item) {
-            for (int leg = item; leg > 0; leg--) {
-                if (kindOf(leg) == LEG) {
-                    return leg;
-                }
-            }
-            return 0;
+            return has(item) ? legs[item] : 0;
         }
     }
 
@@ -612,10 +610,9 @@ public final class RallyCard {
             int lead = beamLead(stage);
             for (int car = 0; car < CARS; car++) {
                 int at = stage * CARS + car;
-                if (beams[at] != NONE) {
-                    ownTimes[at] = Math.max(0, beams[at] - cards.startTenths(car, stage));
-                } else if (hands[at] != NONE) {
-                    ownTimes[at] = Math.max(0, hands[at] + lead - cards.startTenths(car, stage));
+                if (beams[at] != NONE || hands[at] != NONE) {
+                    int finish = beams[at] != NONE ? beams[at] : hands[at] + lead;
+                    ownTimes[at] = Math.max(0, finish - cards.startTenths(car, stage));
                 }
             }
         }
@@ -727,7 +724,6 @@ public final class RallyCard {
         }
 
         int totalFromCard(int car) {
-            stages.reckonAll();
             return stages.sumOf(car) + cards.penaltiesFromCard(car) + tyres.penaltiesFromTyres(car);
         }
 

@@ -135,7 +135,7 @@ public final class ChampionshipTest {
         Rallies.close(x, 4, 6);
         Rallies.close(x, 6, 4);
         tableIs(x, 4, 6, 0, 1, 2, 3, 5, 7, 8, 9);
-        // 18 of car 2 by a second place, 18 of car 1 by a third one and a ninth one and so on
+        // 20 points of car 1 by places 3 and 5, and of car 2 by places 1, 8 and 9 with the last dropped
         RallyCard y = new RallyCard();
         Rallies.close(y, 0, 3, 4, 1, 5, 6, 7, 8, 9, 2);
         Rallies.close(y, 0, 3, 4, 5, 6, 1, 7, 8, 2);
