@@ -13,6 +13,7 @@ public final class StagesTest {
         heldRefuses();
         heldNotional();
         heldByOrder();
+        heldInLaterLeg();
         heldChain();
         awardRefuses();
         awardTakesPlace();
@@ -189,6 +190,23 @@ public final class StagesTest {
         check.same("between 1 and 5", x.held(0, 1, true), 6000);
         x.retire(3, false);
         check.same("a retired one counts still", x.time(2, 1), 2000);
+    }
+
+    /** The order of the later leg counts there: 2, 0, 1 by rank. */
+    private static void heldInLaterLeg() {
+        RallyCard x = Rallies.twoLegs();
+        x.open(0, RallyCard.NUMBERS);
+        Rallies.drive(x, 0, 500);
+        Rallies.drive(x, 1, 900);
+        Rallies.drive(x, 2, 100);
+        x.open(3, RallyCard.RANK);
+        for (int car = 0; car < 3; car++) {
+            Rallies.stampInTime(x, car, 3);
+            x.finish(car, 4, true, 600 * (x.due(car, 3) + 3) + 1000 * (car + 1));
+        }
+        check.same("the first one, by the one behind", x.held(2, 4, true), 1000);
+        check.same("the last one, by the one ahead", x.held(1, 4, true), 1000);
+        check.same("the earlier leg's time stands", x.time(2, 1), 100);
     }
 
     private static void heldChain() {
