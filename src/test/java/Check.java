@@ -21,6 +21,14 @@ final class Check {
         }
     }
 
+    void same(String what, String got, String want) {
+        made++;
+        if (!got.equals(want)) {
+            wrong++;
+            System.out.println(promise + ": " + what + " " + got + ", due is " + want);
+        }
+    }
+
     /** The very class is due, not one below it: the machine throws its own ones below. */
     void fails(Class<? extends RuntimeException> want, String what, Runnable call) {
         made++;
