@@ -7,6 +7,8 @@ import java.util.TreeMap;
 public final class ModelTest {
     private static final int RUNS = 400;
     private static final int CALLS = 512;
+    /** With less room it would take too many new objects to ask everything. */
+    private static final int ROOM = 60;
     private static final int[] WRONG = {-1, -2, 10, 20, 100, 2001, 100000, 2000001, Integer.MIN_VALUE, Integer.MAX_VALUE};
 
     private final Random random;
@@ -16,7 +18,6 @@ public final class ModelTest {
     private final TreeMap<String, Integer> counts;
     private final int closeOnceIn;
     private int items;
-    private int calls;
     private boolean isRight = true;
 
     /** Each fourth run has many short rallies, so that seasons come to their ends, too. */
@@ -48,7 +49,7 @@ public final class ModelTest {
     }
 
     private boolean isRight(int run) {
-        while (isRight && calls < CALLS) {
+        while (isRight && made.size() < CALLS) {
             if (items == 0) {
                 layItinerary();
             }
@@ -58,33 +59,35 @@ public final class ModelTest {
             }
         }
         if (!isRight) {
-            System.out.println("run " + run + " goes wrong with its last call: " + made);
+            System.out.println("run " + run + " goes wrong behind these calls: " + made);
         }
         return isRight;
     }
 
     private String make(String name, int... args) {
-        if (calls >= CALLS) {
-            return "";
-        }
-        calls++;
-        return compare(name, args);
-    }
-
-    private String compare(String name, int... args) {
-        if (!isRight) {
+        if (!isRight || made.size() >= CALLS) {
             return "";
         }
         Call call = new Call(name, args);
+        String want = compare(call, x);
         made.add(call);
-        String want = model.answer(call);
-        String got = call.askedOf(x);
         counts.merge(name + (want.endsWith("n") ? " " + want : " answers"), 1, Integer::sum);
+        return want;
+    }
+
+    private String compare(Call call, RallyCard asked) {
+        String want = model.answer(call);
+        String got = call.askedOf(asked);
         if (!got.equals(want)) {
             isRight = false;
             System.out.println(call + " answered " + got + ", due is " + want);
         }
         return want;
+    }
+
+    /** What is due, asked of the model so that it is no call of the object. */
+    private String due(int car, int item) {
+        return model.answer(new Call("due", car, item));
     }
 
     /** Mostly short itineraries, so that cars come to their ends. */
@@ -135,7 +138,7 @@ public final class ModelTest {
     private void stampAndDrive(int car) {
         int last = random.nextInt(items + 1);
         for (int item = 0; item < last; item++) {
-            String due = new Call("due", car, item).askedOf(x);
+            String due = due(car, item);
             if (due.endsWith("n")) {
                 tell(car, item);
             } else if (!due.equals("-1")) {
@@ -147,7 +150,7 @@ public final class ModelTest {
 
     /** A finish not long behind what may be the start. */
     private void tell(int car, int item) {
-        String due = new Call("due", car, Math.max(0, item - 1)).askedOf(x);
+        String due = due(car, Math.max(0, item - 1));
         int minute = due.endsWith("n") ? random.nextInt(300) : Math.max(0, Integer.parseInt(due));
         make("finish", car, item, random.nextInt(2), 600 * (minute + 3) + 5 * random.nextInt(400));
     }
@@ -170,22 +173,36 @@ public final class ModelTest {
         }
     }
 
-    /** These calls change nothing, so they are not counted among the 512. */
+    /** Asks all that there is, of new objects after the same calls: none has more than it may have. */
     private void lookAtAll() {
+        List<Call> questions = questions();
+        int at = 0;
+        while (isRight && at < questions.size() && made.size() <= CALLS - ROOM) {
+            RallyCard y = new RallyCard();
+            made.forEach(call -> call.askedOf(y));
+            int end = Math.min(questions.size(), at + CALLS - made.size());
+            for (; at < end; at++) {
+                compare(questions.get(at), y);
+            }
+        }
+    }
+
+    private List<Call> questions() {
+        List<Call> questions = new ArrayList<>();
         for (int car = 0; car < 10; car++) {
             for (int what = 0; what < 6; what++) {
-                compare("car", car, what);
+                questions.add(new Call("car", car, what));
             }
             for (int item = 0; item < items; item++) {
-                compare("due", car, item);
-                compare("time", car, item);
-                compare("starts", item, car);
+                questions.add(new Call("due", car, item));
+                questions.add(new Call("time", car, item));
+                questions.add(new Call("starts", item, car));
             }
-            compare("totalAnew", car);
-            compare("ranked", car);
-            compare("points", car);
-            compare("table", car);
+            for (String name : new String[] {"totalAnew", "ranked", "points", "table"}) {
+                questions.add(new Call(name, car));
+            }
         }
+        return questions;
     }
 
     private int car() {

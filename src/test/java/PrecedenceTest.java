@@ -13,6 +13,8 @@ public final class PrecedenceTest {
         notionalChangesLater();
         meanOfStageAlone();
         totalByWhatWins();
+        bestOfAllCars();
+        meanOfAllCars();
         fineBeforeAllocation();
         rankByTotal();
         rankByFirstStage();
@@ -188,6 +190,50 @@ public final class PrecedenceTest {
         x.award(1, S, NONE);
         check.same("the best time is an own one", x.car(3, 4), 7000);
         check.same("it does not lead any more", x.ranked(1), 1);
+    }
+
+    /** Told behind the retirement, or when the car is out: what is told last is reckoned with, too. */
+    private static void bestOfAllCars() {
+        check.promise("15 car, the best time of all cars");
+        RallyCard x = ready();
+        x.finish(1, S, true, start(1) + 900);
+        check.same("of one that is ranked", x.car(0, 4), 6900);
+        x.retire(2, false);
+        x.finish(2, S, true, start(2) + 800);
+        check.same("of one that is retired", x.car(0, 4), 6800);
+        x.stamp(3, 3, 1000);
+        x.finish(3, S, false, start(3) + 700);
+        check.same("of one that is out", x.car(0, 4), 6700);
+        check.same("anew", x.totalAnew(0), 6700);
+        x.award(3, S, 600);
+        check.same("its award", x.car(0, 4), 6600);
+        x.held(3, S, true);
+        check.same("its award still", x.car(0, 4), 6600);
+        x.award(3, S, NONE);
+        check.same("its notional time is the retired one's", x.car(0, 4), 6800);
+        x.held(2, S, true);
+        check.same("both are held up", x.car(0, 4), 6900);
+        check.same("anew", x.totalAnew(0), 6900);
+    }
+
+    private static void meanOfAllCars() {
+        check.promise("8 finish, the mean of all cars that have both");
+        RallyCard x = ready();
+        x.finish(0, S, false, start(0) + 1000);
+        x.retire(1, true);
+        x.finish(1, S, true, start(1) + 500);
+        x.finish(1, S, false, start(1) + 490);
+        check.same("of one that is retired", x.time(0, S), 1010);
+        x.stamp(2, 3, 1000);
+        x.finish(2, S, false, start(2) + 470);
+        x.finish(2, S, true, start(2) + 500);
+        check.same("and one that is out", x.time(0, S), 1020);
+        x.finish(3, S, true, start(3) + 500);
+        x.finish(3, S, false, start(3) + 450);
+        check.same("and another one", x.time(0, S), 1030);
+        x.held(3, S, true);
+        x.award(2, S, 5);
+        check.same("held up or not, with an award or without", x.time(0, S), 1030);
     }
 
     private static void fineBeforeAllocation() {

@@ -69,7 +69,8 @@ final class Unchanged {
         }
         on.call("finish", 1, 2, 0, 600 * 23 + 1750).call("finish", 8, 2, 1, 600 * 37 + 1600).call("held", 7, 2, 1);
         on.call("award", 6, 2, -1).call("held", 5, 2, 0).call("delay", 3, 1, 2).call("delay", 6, 0, 3);
-        on.call("allocate", 0, 5).call("allocate", 7, 16).call("seen", 7, 16).call("seen", 7, 10).call("seen", 0, 99);
+        on.call("allocate", 0, 5).call("allocate", 3, 50).call("seen", 7, 10).call("seen", 7, 16).call("seen", 7, 99);
+        on.call("seen", 0, 0).call("seen", 0, 99).call("seen", 9, 0).call("seen", 9, 99);
         for (int car = 0; car < 10; car++) {
             on.call("stamp", car, 3, 45 + 2 * car);
         }
