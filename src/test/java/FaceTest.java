@@ -8,13 +8,15 @@ import java.util.TreeSet;
 
 /** The public face: the constants, the constructor and the methods of the document, and no more. */
 public final class FaceTest {
+    /** Behind a method's parameters: I, A and S for the exceptions of its throws clause, in its order. */
     private static final Set<String> FACE = new TreeSet<>(Arrays.asList(
             "int NONE", "int LEG", "int CONTROL", "int STAGE", "int NUMBERS", "int RANK", "int REVERSED",
-            "int item[int, int]", "int open[int, int]", "int starts[int, int]", "int due[int, int]",
-            "int stamp[int, int, int]", "int delay[int, int, int]", "void finish[int, int, boolean, int]",
-            "int held[int, int, boolean]", "int award[int, int, int]", "int time[int, int]",
-            "int allocate[int, int]", "int seen[int, int]", "void retire[int, boolean]", "int car[int, int]",
-            "int totalAnew[int]", "int ranked[int]", "int close[]", "int points[int]", "int table[int]"));
+            "int item[int, int]AS", "int open[int, int]IAS", "int starts[int, int]IA", "int due[int, int]IA",
+            "int stamp[int, int, int]IAS", "int delay[int, int, int]IAS", "void finish[int, int, boolean, int]IAS",
+            "int held[int, int, boolean]IAS", "int award[int, int, int]IAS", "int time[int, int]IA",
+            "int allocate[int, int]IAS", "int seen[int, int]IA", "void retire[int, boolean]IS",
+            "int car[int, int]IA", "int totalAnew[int]I", "int ranked[int]A", "int close[]S", "int points[int]I",
+            "int table[int]A"));
 
     public static void main(String[] args) {
         Check check = new Check();
@@ -37,7 +39,8 @@ public final class FaceTest {
         }
         for (Method method : RallyCard.class.getDeclaredMethods()) {
             if (isOfFace(method)) {
-                found.add(method.getReturnType().getSimpleName() + " " + method.getName() + parameters(method));
+                found.add(method.getReturnType().getSimpleName() + " " + method.getName()
+                        + parameters(method) + exceptions(method));
             }
         }
         if (!found.equals(FACE)) {
@@ -46,7 +49,6 @@ public final class FaceTest {
         check.same("as in the document", found.equals(FACE) ? 1 : 0, 1);
         check.same("one constructor", RallyCard.class.getDeclaredConstructors().length, 1);
         check.same("public and final", RallyCard.class.getModifiers(), Modifier.PUBLIC | Modifier.FINAL);
-        readme(check);
         check.end();
     }
 
@@ -58,17 +60,12 @@ public final class FaceTest {
         return Arrays.asList(method.getParameterTypes()).toString();
     }
 
-    /** What README.md shows of its use. */
-    private static void readme(Check check) {
-        check.promise("README.md");
-        RallyCard rally = Rallies.oneStage();
-        check.same("stamp", rally.stamp(0, 0, rally.due(0, 0)), 0);
-        check.same("stamp", rally.stamp(0, 1, 17), 200);
-        rally.finish(0, 2, true, 13500);
-        check.same("time", rally.time(0, 2), 1500);
-        check.same("total", rally.car(0, 4), 1700);
-        check.same("ranked", rally.ranked(0), 0);
-        check.same("close", rally.close(), 1);
-        check.same("points", rally.points(0), 25);
+    private static String exceptions(Method method) {
+        StringBuilder letters = new StringBuilder();
+        for (Class<?> exception : method.getExceptionTypes()) {
+            letters.append(exception == Check.INDEX ? 'I' : exception == Check.ARGUMENT ? 'A'
+                    : exception == Check.STATE ? 'S' : '?');
+        }
+        return letters.toString();
     }
 }
